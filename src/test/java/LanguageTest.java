@@ -103,6 +103,18 @@ public final class LanguageTest {
         y.trash(0, 0);
         CHECK.due("taught again", Check.teach(y, list), 0);
         CHECK.due("all is as at first", y.digest(), fresh);
+
+        // nothing of earlier lists is left, good or wrong
+        String wide = "card b cost 9 worth 9 coins 1" + Check.repeat("*1", 150) + "; start 9 of b; pile 9 of b; merchant m; merchant n;"
+            + "buy b for n when 1 = 2;";
+        for (int i = 0; i < 20; i++) {
+            CHECK.due("a wide list", Check.teach(y, wide), 0);
+            CHECK.due("a wide and wrong list", Check.teach(y, wide + "merchant m;"), 2);
+        }
+        CHECK.due("its coins", y.next(1, 0), 5);
+        CHECK.due("taught again", Check.teach(y, list), 0);
+        CHECK.due("all is as at first", y.digest(), fresh);
+        CHECK.due("its coins", y.next(0, 0), 5);
     }
 
     private static void tokens() {
@@ -199,6 +211,8 @@ public final class LanguageTest {
         CHECK.dueErrorAt(1, CARD + " coins ((((((((1 * @-1))))))));");
         CHECK.dueGood(CARD + " coins " + Check.repeat("min(1, ", 8) + "1" + Check.repeat(")", 8) + ";");
         CHECK.dueErrorAt(1, CARD + " coins " + Check.repeat("min(1, ", 8) + "max@(1, 1)" + Check.repeat(")", 8) + ";");
+        CHECK.dueGood(CARD + " coins " + Check.repeat("max(", 8) + "1" + Check.repeat(", 1)", 8) + ";");
+        CHECK.dueErrorAt(1, CARD + " coins " + Check.repeat("max(", 8) + "@-1" + Check.repeat(", 1)", 8) + ";");
         CHECK.dueGood(CARD + " coins -1 + -1 + -1 + -1 + -1 + -1 + -1 + -1 + -1 + -1;");
         CHECK.dueGood(CARD + " coins (1) + (1) + (1) + (1) + (1) + (1) + (1) + (1) + (1);");
         CHECK.dueGood(ORDER + "not not not not not not not not 1 = 1;");
@@ -227,6 +241,8 @@ public final class LanguageTest {
         CHECK.dueErrorAt(2, "merchant b; merchant c; merchant @b;");
         CHECK.dueGood("merchant a; " + CARD + ";");
         CHECK.dueGood("merchant a; merchant a1; merchant a2; merchant aa;");
+        CHECK.dueGood("merchant a9; merchant aa; merchant a0; merchant a;");
+        CHECK.dueGood("merchant zzzzzzzzzz; merchant zzzzzzzzz9; merchant z999999999; merchant zzzzzzzzz;");
         CHECK.dueErrorAt(2, cards(10) + "card @c9 cost 1 worth 1;");
         CHECK.dueErrorAt(2, "merchant a; merchant b; merchant c; merchant d; merchant @d;");
     }

@@ -129,6 +129,11 @@ public final class MarketTest {
         dueRow("discards of m", discards(x, 0), 1, 1, 0, 1, 1, 1);
         dueRow("discards of n", discards(x, 1), 1, 1, 0, 1, 1, 1);
         dueRow("deck of m", deck(x, 0));
+        TarotMerchants y = Check.taught("card a cost 0 worth 1; merchant m; card b cost 0 worth 2; buy b for m; pile 9 of b; pile 7 of a; start 1 of a;"
+            + "pile 8 of b;");
+        CHECK.due("the latest line of pile", y.card(1, 3), 8);
+        CHECK.due("the line of pile", y.card(0, 3), 7);
+        CHECK.due("lines behind an order leave it", y.play(1) + y.card(1, 6), 2);
         CHECK.due("owns a", x.owns(0, 0), 1);
         CHECK.due("owns b", x.owns(1, 1), 5);
     }
