@@ -55,6 +55,30 @@ final class Check {
         dueThrow(what, call, IllegalStateException.class);
     }
 
+    void dueRow(String what, int[] got, int... want) {
+        due(what + " has so many", got.length, want.length);
+        for (int i = 0; i < got.length && i < want.length; i++) {
+            due(what + " " + i, got[i], want[i]);
+        }
+    }
+
+    /** The call has to throw exactly this exception, and all that the object tells has to be the same behind it. */
+    void dueRefused(String what, TarotMerchants x, Call call, Class<? extends RuntimeException> want) {
+        long digest = x.digest();
+        int errorAt = x.errorAt();
+        int ahead = x.foresee(2, 7);
+        dueThrow(what, call, want);
+        due("digest() behind " + what, x.digest(), digest);
+        due("errorAt() behind " + what, x.errorAt(), errorAt);
+        due("foresee(2, 7) behind " + what, x.foresee(2, 7), ahead);
+    }
+
+    /** Whether a test of the language holds, in the first turn of a merchant without cards; a is a card of cost 0. */
+    void dueHolds(String test, boolean want) {
+        TarotMerchants x = taught("card a cost 0 worth 0; pile 1 of a; merchant m; buy a for m when " + test + ";");
+        due("holds: " + test, x.next(0, 4), want ? 1 : 0);
+    }
+
     /** What is taught has to have this error (0 for none) at this position. */
     void dueError(String list, int error, int place) {
         TarotMerchants x = new TarotMerchants();
@@ -108,6 +132,22 @@ final class Check {
             throw new IllegalStateException("error " + error + " at " + x.errorAt() + " of: " + list);
         }
         return x;
+    }
+
+    static int[] deck(TarotMerchants x, int merchant) {
+        int[] row = new int[x.merchant(merchant, 0)];
+        for (int place = 0; place < row.length; place++) {
+            row[place] = x.deck(merchant, place);
+        }
+        return row;
+    }
+
+    static int[] discards(TarotMerchants x, int merchant) {
+        int[] row = new int[x.merchant(merchant, 1)];
+        for (int place = 0; place < row.length; place++) {
+            row[place] = x.discard(merchant, place);
+        }
+        return row;
     }
 
     static String repeat(String part, int times) {

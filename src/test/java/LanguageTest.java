@@ -107,7 +107,7 @@ public final class LanguageTest {
         // nothing of earlier lists is left, good or wrong
         String wide = "card b cost 9 worth 9 coins 1" + Check.repeat("*1", 150) + "; start 9 of b; pile 9 of b; merchant m; merchant n;"
             + "buy b for n when 1 = 2;";
-        for (int i = 0; i < 20; i++) {
+        for (int i = 0; i < 7; i++) {
             CHECK.due("a wide list", Check.teach(y, wide), 0);
             CHECK.due("a wide and wrong list", Check.teach(y, wide + "merchant m;"), 2);
         }

@@ -21,13 +21,6 @@ public final class MarketTest {
         CHECK.end();
     }
 
-    private static void dueRow(String what, int[] got, int... want) {
-        CHECK.due(what + " has so many", got.length, want.length);
-        for (int i = 0; i < got.length && i < want.length; i++) {
-            CHECK.due(what + " " + i, got[i], want[i]);
-        }
-    }
-
     private static int[] counts(TarotMerchants x) {
         int[] row = new int[9];
         for (int what = 0; what < 9; what++) {
@@ -52,83 +45,67 @@ public final class MarketTest {
         return row;
     }
 
-    private static int[] deck(TarotMerchants x, int merchant) {
-        int[] row = new int[x.merchant(merchant, 0)];
-        for (int place = 0; place < row.length; place++) {
-            row[place] = x.deck(merchant, place);
-        }
-        return row;
-    }
-
-    private static int[] discards(TarotMerchants x, int merchant) {
-        int[] row = new int[x.merchant(merchant, 1)];
-        for (int place = 0; place < row.length; place++) {
-            row[place] = x.discard(merchant, place);
-        }
-        return row;
-    }
-
     private static void count() {
         TarotMerchants x = Check.taught(FIVE);
-        dueRow("count", counts(x), 0, 5, 2, 1, 34, 10, 0, 0, 0);
+        CHECK.dueRow("count", counts(x), 0, 5, 2, 1, 34, 10, 0, 0, 0);
         x.give(1, 1);
         x.trash(0, 4);
         x.trash(0, 3);
         x.feed(0, 0, 0, 0, 0);
-        dueRow("count", counts(x), 0, 5, 2, 1, 33, 9, 2, 0, 20);
+        CHECK.dueRow("count", counts(x), 0, 5, 2, 1, 33, 9, 2, 0, 20);
         TarotMerchants y = Check.taught("card a cost 1 worth 1 coins 1 trash a; start 5 of a; pile 9 of a;"
             + "merchant m; merchant n; buy a for m; buy a for m; buy a for n;");
         // three of the five cards of each are played, the other two trashed, and one is bought
         y.play(1);
-        dueRow("count behind a round", counts(y), 1, 1, 2, 3, 7, 8, 4, 2, 0);
+        CHECK.dueRow("count behind a round", counts(y), 1, 1, 2, 3, 7, 8, 4, 2, 0);
         CHECK.dueOutOfBounds("count(-1)", () -> x.count(-1));
         CHECK.dueOutOfBounds("count(9)", () -> x.count(9));
     }
 
     private static void card() {
         TarotMerchants x = Check.taught(FIVE);
-        dueRow("card a", cardRow(x, 0), 0, 1, 1, 3, 2, 0, 0);
-        dueRow("card b", cardRow(x, 1), 2, 3, 2, 30, 2, 0, 0);
-        dueRow("card c", cardRow(x, 2), 3, 0, 0, 1, 2, 0, 0);
-        dueRow("card d", cardRow(x, 3), 4, 5, 4, 0, 2, 0, 0);
-        dueRow("card e", cardRow(x, 4), 99, 99, 0, 0, 2, 0, 0);
+        CHECK.dueRow("card a", cardRow(x, 0), 0, 1, 1, 3, 2, 0, 0);
+        CHECK.dueRow("card b", cardRow(x, 1), 2, 3, 2, 30, 2, 0, 0);
+        CHECK.dueRow("card c", cardRow(x, 2), 3, 0, 0, 1, 2, 0, 0);
+        CHECK.dueRow("card d", cardRow(x, 3), 4, 5, 4, 0, 2, 0, 0);
+        CHECK.dueRow("card e", cardRow(x, 4), 99, 99, 0, 0, 2, 0, 0);
         x.give(0, 0);
         x.trash(1, 0);
         x.trash(1, 4);
-        dueRow("card a", cardRow(x, 0), 0, 1, 1, 2, 2, 0, 0);
-        dueRow("card e", cardRow(x, 4), 99, 99, 0, 0, 1, 0, 0);
+        CHECK.dueRow("card a", cardRow(x, 0), 0, 1, 1, 2, 2, 0, 0);
+        CHECK.dueRow("card e", cardRow(x, 4), 99, 99, 0, 0, 1, 0, 0);
         TarotMerchants y = Check.taught("card a cost 1 worth 1 coins 1; start 6 of a; pile 9 of a;"
             + "merchant m; merchant n; buy a for m; buy a for n;");
         y.play(2);
-        dueRow("card a behind two rounds", cardRow(y, 0), 1, 1, 1, 5, 16, 20, 4);
+        CHECK.dueRow("card a behind two rounds", cardRow(y, 0), 1, 1, 1, 5, 16, 20, 4);
         y.next(0, 0);
         y.foresee(5, 0);
         y.missed(0, 5);
         y.advise(0, 5);
-        dueRow("what would be is not counted", cardRow(y, 0), 1, 1, 1, 5, 16, 20, 4);
+        CHECK.dueRow("what would be is not counted", cardRow(y, 0), 1, 1, 1, 5, 16, 20, 4);
     }
 
     private static void merchant() {
         TarotMerchants x = Check.taught(FIVE + "merchant o; merchant p;");
-        dueRow("merchant m", merchantRow(x, 0), 0, 5, 1, 108, 0, 0, 0, 0);
-        dueRow("merchant n", merchantRow(x, 1), 0, 5, 8, 108, 0, 0, 0, 0);
-        dueRow("merchant o", merchantRow(x, 2), 0, 5, 15, 108, 0, 0, 0, 0);
-        dueRow("merchant p", merchantRow(x, 3), 0, 5, 22, 108, 0, 0, 0, 0);
+        CHECK.dueRow("merchant m", merchantRow(x, 0), 0, 5, 1, 108, 0, 0, 0, 0);
+        CHECK.dueRow("merchant n", merchantRow(x, 1), 0, 5, 8, 108, 0, 0, 0, 0);
+        CHECK.dueRow("merchant o", merchantRow(x, 2), 0, 5, 15, 108, 0, 0, 0, 0);
+        CHECK.dueRow("merchant p", merchantRow(x, 3), 0, 5, 22, 108, 0, 0, 0, 0);
         x.trash(0, 4);
         x.give(0, 0);
-        dueRow("merchant m", merchantRow(x, 0), 0, 5, 1, 10, 1, 0, 0, 0);
+        CHECK.dueRow("merchant m", merchantRow(x, 0), 0, 5, 1, 10, 1, 0, 0, 0);
         TarotMerchants y = Check.taught("card a cost 2 worth 1 coins 1; start 5 of a; pile 9 of a; merchant m; buy a for m;");
         // the seed goes on four times: 264, 994, 986, 463
         y.play(1);
-        dueRow("merchant m", merchantRow(y, 0), 0, 6, 463, 6, 0, 1, 5, 1);
+        CHECK.dueRow("merchant m", merchantRow(y, 0), 0, 6, 463, 6, 0, 1, 5, 1);
     }
 
     private static void starts() {
         TarotMerchants x = Check.taught("card a cost 1 worth 1; card b cost 1 worth 1; merchant m; start 2 of b; start 1 of a;"
             + "start 3 of b; merchant n;");
-        dueRow("discards of m", discards(x, 0), 1, 1, 0, 1, 1, 1);
-        dueRow("discards of n", discards(x, 1), 1, 1, 0, 1, 1, 1);
-        dueRow("deck of m", deck(x, 0));
+        CHECK.dueRow("discards of m", Check.discards(x, 0), 1, 1, 0, 1, 1, 1);
+        CHECK.dueRow("discards of n", Check.discards(x, 1), 1, 1, 0, 1, 1, 1);
+        CHECK.dueRow("deck of m", Check.deck(x, 0));
         TarotMerchants y = Check.taught("card a cost 0 worth 1; merchant m; card b cost 0 worth 2; buy b for m; pile 9 of b; pile 7 of a; start 1 of a;"
             + "pile 8 of b;");
         CHECK.due("the latest line of pile", y.card(1, 3), 8);
@@ -176,7 +153,7 @@ public final class MarketTest {
         CHECK.due("give", x.give(0, 0), 1);
         CHECK.due("give", x.give(1, 2), 0);
         CHECK.due("not bought", x.count(7) + x.card(0, 6) + x.merchant(1, 5), 0);
-        dueRow("discards", discards(x, 1), 0, 1, 2, 3, 4, 0, 2);
+        CHECK.dueRow("discards", Check.discards(x, 1), 0, 1, 2, 3, 4, 0, 2);
         CHECK.due("owns", x.owns(1, 0), 2);
         long before = x.digest();
         CHECK.dueIllegalState("an empty pile", () -> x.give(1, 2));
@@ -207,9 +184,9 @@ public final class MarketTest {
         TarotMerchants x = Check.taught("card a cost 1 worth 1; card b cost 1 worth 1; card c cost 1 worth 1; start 2 of b; start 1 of a;"
             + "start 1 of b; pile 5 of c; merchant m; merchant n;");
         CHECK.due("trash a", x.trash(0, 0), 2);
-        dueRow("discards", discards(x, 0), 1, 1, 1);
+        CHECK.dueRow("discards", Check.discards(x, 0), 1, 1, 1);
         CHECK.due("trash b", x.trash(0, 1), 0);
-        dueRow("discards", discards(x, 0), 1, 1);
+        CHECK.dueRow("discards", Check.discards(x, 0), 1, 1);
         CHECK.due("counted", x.merchant(0, 4), 2);
         CHECK.due("not of the other", x.merchant(1, 4), 0);
         CHECK.due("owned by nobody", x.card(0, 4) + x.count(4), 6);
@@ -227,13 +204,13 @@ public final class MarketTest {
         TarotMerchants x = Check.taught(FIVE);
         // seeds 264, 994, 986, 463: places 4 with 4, 3 with 2, 2 with 2, 1 with 1
         CHECK.due("shuffle", x.shuffle(0), 5);
-        dueRow("deck", deck(x, 0), 0, 1, 3, 2, 4);
-        dueRow("merchant", merchantRow(x, 0), 5, 0, 463, 108, 0, 0, 0, 1);
+        CHECK.dueRow("deck", Check.deck(x, 0), 0, 1, 3, 2, 4);
+        CHECK.dueRow("merchant", merchantRow(x, 0), 5, 0, 463, 108, 0, 0, 0, 1);
         x.give(0, 0);
         x.give(0, 1);
         // seed 603: place 1 with 1
         CHECK.due("shuffle", x.shuffle(0), 7);
-        dueRow("put under the deck", deck(x, 0), 0, 1, 3, 2, 4, 0, 1);
+        CHECK.dueRow("put under the deck", Check.deck(x, 0), 0, 1, 3, 2, 4, 0, 1);
         CHECK.due("seed", x.merchant(0, 2), 603);
         x.give(0, 2);
         CHECK.due("shuffle of one card", x.shuffle(0), 8);
@@ -245,8 +222,8 @@ public final class MarketTest {
         CHECK.due("the other one", x.merchant(1, 1), 5);
         // five cards are drawn from the top, b, d and the second b draw one each, and there is nothing to trash
         x.play(1);
-        dueRow("deck", deck(x, 0));
-        dueRow("discards", discards(x, 0), 0, 1, 3, 2, 4, 0, 1, 2);
+        CHECK.dueRow("deck", Check.deck(x, 0));
+        CHECK.dueRow("discards", Check.discards(x, 0), 0, 1, 3, 2, 4, 0, 1, 2);
         CHECK.due("shuffles", x.merchant(0, 7), 3);
     }
 

@@ -170,11 +170,6 @@ public final class RoundsTest {
         CHECK.due("what does not hold now", Check.taught(list + "buy a for m; buy a for m when coins = 5;").play(1), 1);
     }
 
-    private static void holds(String test, boolean want) {
-        TarotMerchants x = Check.taught("card a cost 0 worth 0; pile 1 of a; merchant m; buy a for m when " + test + ";");
-        CHECK.due("holds: " + test, x.next(0, 4), want ? 1 : 0);
-    }
-
     private static void arithmetic() {
         String[] equal = {"1 + 2 * 3 = 7", "10 - 4 - 3 = 3", "100 / 10 / 5 = 2", "2 * 3 / 4 = 1", "2 / 4 * 3 = 0", "(1 + 2) * 3 = 9",
             "-1 - 1 = -2", "-2 * 3 = -6", "2 * -3 = -6", "2 - -3 = 5", "--3 = 3", "-(3 - 5) = 2", "min(1, 2) = 1", "max(1, 2) = 2",
@@ -184,32 +179,32 @@ public final class RoundsTest {
             LEAST + " < 0", "(" + LEAST + ") / -1 = " + LEAST, "-(" + LEAST + ") = " + LEAST, LEAST + " - 1 > 0",
             "(" + LEAST + ") * -1 = " + LEAST, "min(" + LEAST + ", 0) < 0", "max(" + LEAST + ", 0) = 0"};
         for (String test : equal) {
-            holds(test, true);
-            holds("not " + test, false);
+            CHECK.dueHolds(test, true);
+            CHECK.dueHolds("not " + test, false);
         }
     }
 
     private static void tests() {
         for (int left = -1; left <= 1; left++) {
-            holds(left + " < 0", left < 0);
-            holds(left + " > 0", left > 0);
-            holds(left + " = 0", left == 0);
-            holds(left + " <= 0", left <= 0);
-            holds(left + " >= 0", left >= 0);
+            CHECK.dueHolds(left + " < 0", left < 0);
+            CHECK.dueHolds(left + " > 0", left > 0);
+            CHECK.dueHolds(left + " = 0", left == 0);
+            CHECK.dueHolds(left + " <= 0", left <= 0);
+            CHECK.dueHolds(left + " >= 0", left >= 0);
         }
-        holds("999999 * 2147 > -999999 * 2147", true);
-        holds("1 = 1 or 1 = 2 and 1 = 2", true);
-        holds("1 = 2 and 1 = 2 or 1 = 1", true);
-        holds("[1 = 1 or 1 = 2] and 1 = 2", false);
-        holds("not 1 = 2 and 1 = 2", false);
-        holds("not [1 = 2 and 1 = 2]", true);
-        holds("not 1 = 1 or 1 = 1", true);
-        holds("not not 1 = 1", true);
-        holds("1 = 1 and 1 = 1 and 1 = 2", false);
-        holds("1 = 2 or 1 = 2 or 1 = 1", true);
-        holds("1 = 2 or 1 = 2", false);
-        holds("1 = 1 and 1 = 1", true);
-        holds("1 = 1 or 1 = 1", true);
+        CHECK.dueHolds("999999 * 2147 > -999999 * 2147", true);
+        CHECK.dueHolds("1 = 1 or 1 = 2 and 1 = 2", true);
+        CHECK.dueHolds("1 = 2 and 1 = 2 or 1 = 1", true);
+        CHECK.dueHolds("[1 = 1 or 1 = 2] and 1 = 2", false);
+        CHECK.dueHolds("not 1 = 2 and 1 = 2", false);
+        CHECK.dueHolds("not [1 = 2 and 1 = 2]", true);
+        CHECK.dueHolds("not 1 = 1 or 1 = 1", true);
+        CHECK.dueHolds("not not 1 = 1", true);
+        CHECK.dueHolds("1 = 1 and 1 = 1 and 1 = 2", false);
+        CHECK.dueHolds("1 = 2 or 1 = 2 or 1 = 1", true);
+        CHECK.dueHolds("1 = 2 or 1 = 2", false);
+        CHECK.dueHolds("1 = 1 and 1 = 1", true);
+        CHECK.dueHolds("1 = 1 or 1 = 1", true);
     }
 
     private static void orders() {
