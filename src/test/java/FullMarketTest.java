@@ -10,17 +10,15 @@ public final class FullMarketTest {
 
     public static void main(String[] args) {
         String list = list();
-        TarotMerchants x = new TarotMerchants();
-        ReferenceModel y = new ReferenceModel();
         for (int part = 0; part < 20; part++) {
+            TarotMerchants x = new TarotMerchants();
+            ReferenceModel y = new ReferenceModel();
             teach(list, x, y);
             for (int step = 0; step < part; step++) {
                 due("play", x.play(1 + step % 3), y.play(1 + step % 3));
                 due("digest", x.digest(), y.digest());
             }
             compare(x, y);
-            x = new TarotMerchants();
-            y = new ReferenceModel();
         }
         dearestCalls(list);
         CHECK.end();
